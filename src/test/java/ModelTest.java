@@ -155,7 +155,7 @@ public final class ModelTest {
         readBack(row, i);
     }
 
-    /** There is no call that reads an item; a copy onto a guess in who() would. So it is set anew and undone by copy. */
+    /** No call tells an item; who() at least tells whether it is what is paid. */
     private void readBack(int row, int i) {
         same("count(0)", fund.count(0), plain.count(0));
         if (row >= 0 && row < 8 && i >= 0) {
