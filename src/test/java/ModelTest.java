@@ -4,7 +4,7 @@ import java.util.Random;
 
 /** Long runs of calls, drawn by fixed seeds, on the class and on PlainFund side by side. */
 public final class ModelTest {
-    private static final int RUNS = 300;
+    private static final int RUNS = 1500;
     private static final int CALLS = 512;
     private static final String KINDS = "oshfc";
     private static final int[] WILD = {-1, -2, -1000, 1000, 256, Integer.MIN_VALUE, Integer.MAX_VALUE, 41, 99, 100};
