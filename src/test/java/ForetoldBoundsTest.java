@@ -21,6 +21,7 @@ public final class ForetoldBoundsTest {
         halvesOfSeveral();
         setsAtTheBounds();
         turnsAtTheBounds();
+        turnsOfTwoGivers();
         turnsOfNone();
         roomForWhatIsForetold();
         Check.end("ForetoldBoundsTest");
@@ -84,6 +85,7 @@ public final class ForetoldBoundsTest {
         best("both less than 0", "m99,2;o;o;g0,0,3;g1,0,5;g0,1,3;g2,1,5;", 1, 0, -1);
         // 5 to the capped one; 10 to the flat one, if the first try is taken back again
         best("each tried by itself", "m1,1;c;f;", 10, 1, 10);
+        best("each tried by itself, of three", "m1,1;o;c;f;", 10, 2, 10);
         // 28 and 2 by 20: the first gets 19, by 1 more; 18 and 12 by 20: the other gets 8, by 6 more
         best("what is raised, not what is paid", "m2,1;f;f;g5,0,18;g5,1,2;", 10, 1, 6);
     }
@@ -92,6 +94,10 @@ public final class ForetoldBoundsTest {
         MatchFund x = Check.told(text);
         Check.due("best, " + when, x.best(0, v, 0), which);
         Check.due("best by, " + when, x.best(0, v, 1), by);
+        if (!text.contains("g")) {
+            Check.due("best of another, " + when, x.best(9, v, 0), which);
+            Check.due("best by of another, " + when, x.best(9, v, 1), by);
+        }
     }
 
     private static void bestAtTheBounds() {
@@ -281,6 +287,14 @@ public final class ForetoldBoundsTest {
         // 5 or more to the flat one, the others to the capped one, all make 10
         Check.due("the fewest", x.halves(0, 10, 0, 2, 0), 5);
         Check.due("the fewest, the other way", x.halves(0, 10, 2, 0, 0), 0);
+        // who has given to the capped one raises nothing there; another's first coin raises its cap from 5 to 10
+        MatchFund capped = Check.told("m99,1;c;f;g0,0,9;");
+        Check.due("the same giver", capped.halves(0, 10, 0, 1, 0), 0);
+        Check.due("the same giver, how much", capped.halves(0, 10, 0, 1, 1), 15);
+        Check.due("another giver", capped.halves(1, 10, 0, 1, 0), 1);
+        Check.due("another giver, how much", capped.halves(1, 10, 0, 1, 1), 19);
+        Check.due("another giver, the other way", capped.halves(1, 10, 1, 0, 0), 9);
+        Check.due("another giver, the other way", capped.halves(1, 10, 1, 0, 1), 19);
         x.pot(0);
         Check.due("nothing is paid", x.halves(0, 40, 2, 0, 0), 0);
         Check.due("nothing is paid", x.halves(0, 40, 2, 0, 1), 0);
@@ -350,6 +364,23 @@ public final class ForetoldBoundsTest {
         named.one(1, 0);
         Check.due("one in its name does not", named.byTurns(1, 0, 1, 9), 2);
         Check.due("two of one name", named.byTurns(0, 1, 2, 9), -7);
+    }
+
+    /** Whose turn it is tells by the caps: a second gift of one who has given 5 raises nothing. */
+    private static void turnsOfTwoGivers() {
+        int[] fresh = {-5, 0, -5, -5, -5};
+        int[] filled = {0, 0, -5, -5, -5};
+        MatchFund x = Check.told("m99,1;c;c;g0,1,5;");
+        MatchFund y = Check.told("m99,1;c;c;g2,0,5;g0,1,5;");
+        for (int n = 0; n <= 4; n++) {
+            Check.due("a has given nothing, " + n, x.byTurns(2, 3, n, 5), fresh[n]);
+            Check.due("a does nothing, " + n, y.byTurns(2, 3, n, 5), filled[n]);
+        }
+        MatchFund named = Check.told("m99,1;f;c;g0,1,5;");
+        Check.due("b raises the cap of the last", named.byTurns(2, 1, 2, 3), 3 - 8);
+        Check.due("b is the one who filled it", named.byTurns(2, 0, 2, 3), 3 - 5);
+        named.one(1, 0);
+        Check.due("b gives in that one's name", named.byTurns(2, 1, 2, 3), 3 - 5);
     }
 
     /** To do nothing is a turn, too; of one project the first is the last. */

@@ -168,6 +168,14 @@ public final class GuessBoundsTest {
             coins(x, g, 0, NONE);
         }
         Check.due("no gift 20", x.who(20, 3, 0, 0), BAD);
+        // two caps of 5 for 2 and so many more: 8 or more make 10; in one name there is one cap
+        MatchFund capped = Check.told("m99,1;c;g0,0,2;g3,0,9;");
+        tell(capped, 10);
+        coins(capped, 1, 92, 8);
+        capped.one(3, 0);
+        coins(capped, 1, 0, NONE);
+        tell(capped, 5);
+        coins(capped, 1, 97, 3);
     }
 
     /** "as many ITEMS of a ROW from i on as there are PROJECTS"; "NULL; PLACE". */
@@ -312,6 +320,14 @@ public final class GuessBoundsTest {
         MatchFund open = Check.told("m99,9;o;g0,0,9;g9,0,9;");
         likely(open, 0, 9, 3, 49, 100);
         likely(open, 0, 10, 3, 0, 1);
+        // one coin of each of four, terms of 1: two of them have to stay for 1, three for 3, all for 6
+        MatchFund four = Check.told("m99,99;o;g0,0,1;g3,0,1;g6,0,1;g9,0,1;");
+        likely(four, 0, 1, 5, 11, 16);
+        likely(four, 0, 2, 5, 5, 16);
+        likely(four, 0, 3, 5, 5, 16);
+        likely(four, 0, 4, 5, 1, 16);
+        likely(four, 0, 6, 5, 1, 16);
+        likely(four, 0, 7, 5, 0, 1);
         // a rival who takes back leaves more: 5 of 10 with him, 10 without
         MatchFund tight = Check.told("m1,1;f;f;g0,0,10;g1,1,10;");
         likely(tight, 0, 5, 3, 7, 10);
@@ -404,6 +420,11 @@ public final class GuessBoundsTest {
         Check.due("from giver 5", one.drawn(1, 1, 0), 0);
         square.one(5, 0);
         Check.due("in the name of giver 0", square.drawn(1, 1, 0), 0);
+        // the gift that is redrawn was in another's name
+        MatchFund named = Check.told("m99,1;f;g0,0,7;");
+        named.one(0, 3);
+        Check.due("out of another's name", named.drawn(1, 1, 0), 5);
+        Check.due("out of another's name, rest", named.drawn(1, 1, 1), 985);
     }
 
     /** "(if there are any)": without gifts X goes on and nothing is paid. */

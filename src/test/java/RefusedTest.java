@@ -298,6 +298,8 @@ public final class RefusedTest {
 
     private static void found(String call, int number, One one) {
         MatchFund x = standing();
+        x.set(0, 0, 7);
+        Check.due(call + ", before it status()", x.status(), 0);
         Check.due(call, one.on(x), -1000010 - number);
         Check.due(call + ", then status()", x.status(), number);
         MatchFund twin = standing();

@@ -164,6 +164,9 @@ public final class WorthBoundsTest {
         claim("m9,9;s;g0,0,1;g1,0,3;", 3);
         // of one giver two gifts are one SUM
         claim("m9,9;s;g0,0,1;g0,0,3;", 0);
+        // 282 * 282 = 79524, just below 8: who gives elsewhere alone has a SUM, and a ROOT, of 0 here
+        claim("m9,9;s;g0,0,2;g1,0,2;", 3);
+        claim("m9,9;s;f;g0,0,2;g1,0,2;g2,1,9;g3,1,9;", 3);
         // the ease has no say
         claim("m9,1;s;g0,0,9;g1,0,16;", 24);
         claim("m9,99;s;g0,0,9;g1,0,16;", 24);

@@ -16,6 +16,8 @@ public final class WorthTest {
     private static void roots() {
         MatchFund x = new MatchFund();
         for (int v = 0; v <= 1980; v++) {
+            // what an object answers beyond its 512th call is free
+            x = v % 500 == 0 ? new MatchFund() : x;
             long root = x.root(v);
             boolean fits = root * root <= 10000L * v && (root + 1) * (root + 1) > 10000L * v;
             Check.due("root(" + v + ") = " + root, fits ? 1 : 0, 1);
