@@ -80,6 +80,8 @@ public final class WorthBoundsTest {
         }
         // 141 * 141 = 19881
         Check.due("just below 2", Check.told("m9,1;f;g0,0,2;g1,0,2;").overlap(0, 1), 1);
+        // 100 * 244 and 583 * 953 are 579999 together, one short of 58
+        Check.due("1 short", Check.told("m9,1;f;f;g0,0,1;g1,0,6;g0,1,34;g1,1,91;").overlap(0, 1), 57);
         Check.due("4 exactly", Check.told("m9,1;f;g0,0,4;g1,0,4;").overlap(0, 1), 4);
     }
 
