@@ -15,6 +15,7 @@ public final class ActBoundsTest {
         oneAndItsStates();
         allInItsName();
         allTenAreOne();
+        whoGaveIt();
         undoOfNone();
         acts24();
         actsOfAllSorts();
@@ -253,6 +254,27 @@ public final class ActBoundsTest {
         }
     }
 
+    /** gift: "GIVER (who gave it)", not in whose NAME, when it is given, taken back, undone and kept in an image. */
+    private static void whoGaveIt() {
+        MatchFund x = Check.told("m9,1;f;f;g3,0,5;");
+        x.one(3, 4);
+        Check.due("in the name of 4", x.give(3, 1, 6), 2);
+        gift(x, 0, 3, 0, 5);
+        gift(x, 1, 3, 1, 6);
+        Check.due("sum of 4", x.sum(4, 1), 6);
+        for (int g = 0; g < 2; g++) {
+            Check.due("back", x.back(g), 5 + g);
+            Check.due("undo", x.undo(), 2);
+            gift(x, g, 3, g, 5 + g);
+        }
+        x.image(0);
+        x.restore(0);
+        gift(x, 1, 3, 1, 6);
+        Check.due("3 goes on to the name of 5", x.one(4, 5), 5);
+        gift(x, 1, 3, 1, 6);
+        Check.due("sum of 5", x.sum(5, 1), 6);
+    }
+
     /** undo: "STATE: none." */
     private static void undoOfNone() {
         Check.due("of a new object", new MatchFund().undo(), STATE);
@@ -396,7 +418,7 @@ public final class ActBoundsTest {
         x.undo();
         x.back(0);
         x.image(0);
-        while (x.count(2) > 0) {
+        for (int g = x.count(2); g > 0; g--) {
             x.back(0);
         }
         Check.due("restore(1)", x.restore(1), 1);

@@ -26,7 +26,7 @@ public final class ForetoldTest {
 
     private static MatchFund withGifts(String text, int gifts) {
         MatchFund x = Check.told(text);
-        while (x.count(2) < gifts) {
+        for (int g = x.count(2); g < gifts; g++) {
             x.give(0, 0, 1);
         }
         return x;

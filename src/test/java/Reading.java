@@ -38,7 +38,7 @@ final class Reading {
     static String whole(MatchFund x) {
         StringJoiner all = new StringJoiner(" ");
         all.add(of(x)).add("acts");
-        while (x.count(5) > 0) {
+        for (int acts = x.count(5); acts > 0; acts--) {
             all.add(x.undo() + ":" + x.count(4));
         }
         all.add("before them").add(brief(x));

@@ -11,6 +11,7 @@ public final class WorthBoundsTest {
         overlapsAreCut();
         overlapsAtTheBounds();
         termsAreCut();
+        termsOfANameAlone();
         openAndHalf();
         square();
         flatAndCapped();
@@ -126,6 +127,19 @@ public final class WorthBoundsTest {
         Check.due("a ring", Check.told("m9,1;o;o;g0,0,99;g1,0,99;g0,1,1;g1,1,1;").term(0, 1, 1), 0);
         // the ROOTS, not the SUMS, and not the kind of the project
         Check.due("of a flat one", Check.told("m9,6;f;g0,0,4;g1,0,9;").term(0, 1, 0), 6);
+    }
+
+    /** A SUM is 0 of a GIVER whose NAME is another's, so there is no OVERLAP and no TERM with him. */
+    private static void termsOfANameAlone() {
+        MatchFund x = Check.told("m9,6;o;g0,0,4;g1,0,9;");
+        Check.due("of their own", x.term(0, 1, 0), 6);
+        x.one(0, 2);
+        Check.due("of the other's name", x.term(2, 1, 0), 6);
+        Check.due("of the one in it", x.term(0, 1, 0), 0);
+        Check.due("the other way", x.term(1, 0, 0), 0);
+        Check.due("of the two", x.term(0, 2, 0), 0);
+        Check.due("overlap of the one in it", x.overlap(0, 1), 0);
+        Check.due("overlap of the other", x.overlap(1, 2), 6);
     }
 
     /** Open: "all TERMS of two GIVERS (each two once), together"; half: "half of what an open one would claim (cut)". */
